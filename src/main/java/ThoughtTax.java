@@ -41,6 +41,12 @@ public final class ThoughtTax {
     private static final int WORD_WORTH = 13;
     private static final int WORD_WEEK = 19;
 
+    private static final int NO_FAULT = 0;
+    private static final int BAD_TOKEN = 1;
+    private static final int TOO_MUCH = 2;
+    private static final int TOLD_ALREADY = 3;
+    private static final int NOT_TOLD = 4;
+
     // KNOTS and signs; the order is the one in which RANKS tells how strongly they bind.
     private static final int KNOT_NUMBER = 0;
     private static final int KNOT_NAME = 1;
@@ -500,7 +506,7 @@ public final class ThoughtTax {
             0x77696c6573L, 0x64756c6c6564L, 0x7468657265L, 0x7765656bL
         };
         // Above every number that is allowed, so that digits without end don't overflow.
-        private static final int TOO_MUCH = 1000000;
+        private static final int BEYOND = 1000000;
 
         private final Tape tape;
         private int end;
@@ -561,7 +567,7 @@ public final class ThoughtTax {
             kind = NUMBER;
             value = 0;
             while (next < end && isDigit(signAt(next))) {
-                if (value < TOO_MUCH) {
+                if (value < BEYOND) {
                     value = value * 10 + signAt(next) - '0';
                 }
                 next++;
@@ -815,7 +821,7 @@ public final class ThoughtTax {
             this.laws = laws;
         }
 
-        /** Answers the FAULT, or 0 with the token behind E being the current one. */
+        /** Answers the FAULT, or NO_FAULT with the token behind E being the current one. */
         private int read(Laws told, int law) {
             laws = told;
             laws.open(law);
@@ -828,15 +834,15 @@ public final class ThoughtTax {
                 if (!wantsOperand && open == 0 && tokens.isSign(STOP)) {
                     release(0);
                     laws.close(law);
-                    return 0;
+                    return NO_FAULT;
                 }
                 int fault = wantsOperand ? takeOperand() : tokens.isSign(CLOSE) ? takeClosing() : takeOperator();
-                if (fault != 0) {
+                if (fault != NO_FAULT) {
                     return fault;
                 }
                 tokens.advance();
             }
-            return 1;
+            return BAD_TOKEN;
         }
 
         private void expectOperand(boolean negation) {
@@ -849,25 +855,25 @@ public final class ThoughtTax {
                 return takeOpening();
             }
             if (tokens.isWord(WORD_NOT)) {
-                return mayNegate ? takeNegation() : 1;
+                return mayNegate ? takeNegation() : BAD_TOKEN;
             }
             boolean isNumber = tokens.kind == Tokens.NUMBER;
             boolean isName = tokens.kind == Tokens.WORD && tokens.value >= WORD_WORTH && tokens.value <= WORD_WEEK;
             if (!isNumber && !isName) {
-                return 1;
+                return BAD_TOKEN;
             }
             if (knots >= Laws.MOST_KNOTS || isNumber && tokens.value > GREATEST_NUMBER) {
-                return 2;
+                return TOO_MUCH;
             }
             knots++;
             laws.add(isNumber ? KNOT_NUMBER : KNOT_NAME, isNumber ? tokens.value : tokens.value - WORD_WORTH);
             wantsOperand = false;
-            return 0;
+            return NO_FAULT;
         }
 
         private int takeOpening() {
             if (open >= MOST_OPEN) {
-                return 2;
+                return TOO_MUCH;
             }
             open++;
             if (open >= 0 && open < isCompared.length) {
@@ -875,26 +881,26 @@ public final class ThoughtTax {
             }
             push(OPEN);
             expectOperand(true);
-            return 0;
+            return NO_FAULT;
         }
 
         private int takeNegation() {
             if (knots >= Laws.MOST_KNOTS) {
-                return 2;
+                return TOO_MUCH;
             }
             knots++;
             push(NOT);
-            return 0;
+            return NO_FAULT;
         }
 
         private int takeOperator() {
             int sign = operator();
             boolean compares = sign >= LESS && sign <= MORE;
             if (sign == NONE || open < 0 || open >= isCompared.length || compares && isCompared[open]) {
-                return 1;
+                return BAD_TOKEN;
             }
             if (knots >= Laws.MOST_KNOTS) {
-                return 2;
+                return TOO_MUCH;
             }
             knots++;
             boolean joins = sign == AND || sign == OR;
@@ -902,17 +908,17 @@ public final class ThoughtTax {
             release(rankOf(sign));
             push(sign);
             expectOperand(joins);
-            return 0;
+            return NO_FAULT;
         }
 
         private int takeClosing() {
             if (open == 0) {
-                return 1;
+                return BAD_TOKEN;
             }
             release(1);
             waitingSize--;
             open--;
-            return 0;
+            return NO_FAULT;
         }
 
         private int operator() {
@@ -947,14 +953,9 @@ public final class ThoughtTax {
 
     /** Reads the LINES of a TEXT up to its first FAULT. */
     private static final class TextReader {
-        private static final int BAD_TOKEN = 1;
-        private static final int TOO_MUCH = 2;
-        private static final int TOLD_ALREADY = 3;
-        private static final int NOT_TOLD = 4;
-
         private final Tokens tokens;
         private final LawReader lawReader;
-        private int fault;
+        private int fault = NO_FAULT;
         private int place = NONE;
         private Book book;
         private int number;
@@ -970,7 +971,7 @@ public final class ThoughtTax {
         private boolean tell(int length, Book into) {
             book = into;
             book.clear();
-            fault = 0;
+            fault = NO_FAULT;
             place = NONE;
             told = 0;
             tokens.start(length);
@@ -1154,7 +1155,7 @@ public final class ThoughtTax {
             }
             tokens.advance();
             int lawFault = lawReader.read(book.laws, law);
-            return lawFault == 0 || blame(lawFault);
+            return lawFault == NO_FAULT || blame(lawFault);
         }
     }
 
@@ -1184,6 +1185,8 @@ public final class ThoughtTax {
         private final int[] wasRead = new int[MOST_THOUGHTS];
         private final int[] skills = new int[MOST_READERS];
         private final int[] tongues = new int[MOST_READERS];
+        // Whether the rate was asked for since this was last set to false.
+        private boolean isRated;
         // The VALUES of the NAMES, in the order of their words.
         private final long[] names = new long[NAME_COUNT];
 
@@ -1232,7 +1235,8 @@ public final class ThoughtTax {
         private void goWeeks(int n, boolean isDrawn) {
             for (int i = 0; i < n; i++) {
                 think();
-                for (int door = 0; week % 4 == 3 && book.isMan(door); door++) {
+                int doors = week % 4 == 3 ? Math.min(book.people, MOST_PEOPLE) : 0;
+                for (int door = 0; door < doors; door++) {
                     if (book.isReader(rounds[door])) {
                         pay(door, dueAt(door, rounds[door], isDrawn));
                         dull[door] = 0;
@@ -1244,7 +1248,7 @@ public final class ThoughtTax {
         }
 
         private void think() {
-            for (int t = 0; book.isThought(t); t++) {
+            for (int t = 0; t < book.thoughts && t < MOST_THOUGHTS; t++) {
                 if (states[t] == TO_COME && book.weeks[t] == week) {
                     states[t] = HELD;
                     holders[t] = book.owners[t];
@@ -1262,7 +1266,7 @@ public final class ThoughtTax {
         }
 
         private void forget() {
-            for (int t = 0; book.isThought(t); t++) {
+            for (int t = 0; t < book.thoughts && t < MOST_THOUGHTS; t++) {
                 if (states[t] == HELD && week - book.weeks[t] > hideOf(t)) {
                     states[t] = GONE;
                     holders[t] = NONE;
@@ -1272,7 +1276,7 @@ public final class ThoughtTax {
 
         private int dueAt(int door, int reader, boolean isDrawn) {
             int best = 0;
-            for (int t = 0; book.isThought(t); t++) {
+            for (int t = 0; t < book.thoughts && t < MOST_THOUGHTS; t++) {
                 if (isHeldAt(t, door) && reads(reader, t, isDrawn)) {
                     wasRead[t] = 1;
                     best = Math.max(best, book.worths[t]);
@@ -1282,7 +1286,7 @@ public final class ThoughtTax {
         }
 
         private boolean readsAny(int door, int reader) {
-            for (int t = 0; book.isThought(t); t++) {
+            for (int t = 0; t < book.thoughts && t < MOST_THOUGHTS; t++) {
                 if (isHeldAt(t, door) && reads(reader, t, false)) {
                     return true;
                 }
@@ -1326,37 +1330,41 @@ public final class ThoughtTax {
             return isHeld(thought) ? rounds[holders[thought]] : NONE;
         }
 
+        // Laws that aren't told are passed over at once here: trials ask for them some ten thousand times.
         private int readOf(int thought, int reader) {
-            if (!book.isThought(thought)) {
+            int man = book.isThought(thought) ? holders[thought] : NONE;
+            if (!book.isMan(man) || !book.isReader(reader)) {
                 return 0;
             }
-            nameDoor(holders[thought], reader, book.worths[thought]);
-            long value = book.laws.work(READ_LAW, names);
-            if (value == NO_VALUE) {
-                value = 10 * names[SKILL] - 5 * names[WILES] - 10 * names[DULLED];
+            long value = NO_VALUE;
+            if (book.laws.isTold(READ_LAW)) {
+                nameDoor(man, reader, book.worths[thought]);
+                value = book.laws.work(READ_LAW, names);
             }
-            return within(value, 100);
+            return within(value == NO_VALUE ? 10 * skills[reader] - 5 * wiles[man] - 10 * dull[man] : value, 100);
         }
 
         private int dueOf(int door, int reader, int best) {
-            nameDoor(door, reader, best);
-            long value = book.laws.work(DUE_LAW, names);
-            if (value == NO_VALUE) {
-                value = best * rate / 100;
+            long value = NO_VALUE;
+            if (book.laws.isTold(DUE_LAW)) {
+                nameDoor(door, reader, best);
+                value = book.laws.work(DUE_LAW, names);
             }
-            return within(value, 999);
+            isRated |= value == NO_VALUE;
+            return within(value == NO_VALUE ? best * rate / 100 : value, 999);
         }
 
         private int hideOf(int thought) {
-            if (!book.isThought(thought)) {
+            int man = book.isThought(thought) ? holders[thought] : NONE;
+            if (!book.isMan(man)) {
                 return 0;
             }
-            nameDoor(holders[thought], NONE, book.worths[thought]);
-            long value = book.laws.work(HIDE_LAW, names);
-            if (value == NO_VALUE) {
-                value = 8 + names[WILES];
+            long value = NO_VALUE;
+            if (book.laws.isTold(HIDE_LAW)) {
+                nameDoor(man, NONE, book.worths[thought]);
+                value = book.laws.work(HIDE_LAW, names);
             }
-            return within(value, 99);
+            return within(value == NO_VALUE ? 8 + wiles[man] : value, 99);
         }
 
         private static int within(long value, int most) {
@@ -1404,7 +1412,7 @@ public final class ThoughtTax {
 
         private int heldBits(int man) {
             int bits = 0;
-            for (int t = 0; book.isThought(t); t++) {
+            for (int t = 0; t < book.thoughts && t < MOST_THOUGHTS; t++) {
                 bits |= isHeldAt(t, man) ? 1 << t : 0;
             }
             return bits;
@@ -1412,7 +1420,7 @@ public final class ThoughtTax {
 
         private int hiddenBits() {
             int bits = 0;
-            for (int t = 0; book.isThought(t); t++) {
+            for (int t = 0; t < book.thoughts && t < MOST_THOUGHTS; t++) {
                 bits |= isHeld(t) && holders[t] != book.owners[t] ? 1 << t : 0;
             }
             return bits;
@@ -1420,7 +1428,7 @@ public final class ThoughtTax {
 
         private int holdersOf(int worth, int tongue) {
             int bits = 0;
-            for (int t = 0; book.isThought(t); t++) {
+            for (int t = 0; t < book.thoughts && t < MOST_THOUGHTS; t++) {
                 if (isHeld(t) && book.worths[t] == worth && book.tongues[t] == tongue) {
                     bits |= 1 << holders[t];
                 }
@@ -1430,7 +1438,7 @@ public final class ThoughtTax {
 
         private int bestHeld(int man) {
             int best = 0;
-            for (int t = 0; book.isThought(t); t++) {
+            for (int t = 0; t < book.thoughts && t < MOST_THOUGHTS; t++) {
                 best = isHeldAt(t, man) ? Math.max(best, book.worths[t]) : best;
             }
             return best;
@@ -1438,7 +1446,7 @@ public final class ThoughtTax {
 
         private int heldWorth() {
             int worth = 0;
-            for (int t = 0; book.isThought(t); t++) {
+            for (int t = 0; t < book.thoughts && t < MOST_THOUGHTS; t++) {
                 worth += isHeld(t) ? book.worths[t] : 0;
             }
             return worth;
@@ -1446,7 +1454,7 @@ public final class ThoughtTax {
 
         private int heldWorthAt(int man) {
             int worth = 0;
-            for (int t = 0; book.isThought(t); t++) {
+            for (int t = 0; t < book.thoughts && t < MOST_THOUGHTS; t++) {
                 worth += isHeldAt(t, man) ? book.worths[t] : 0;
             }
             return worth;
@@ -1455,7 +1463,7 @@ public final class ThoughtTax {
         private int richestDoor() {
             int first = REFUSED;
             int most = 0;
-            for (int door = 0; book.isMan(door); door++) {
+            for (int door = 0; door < book.people && door < MOST_PEOPLE; door++) {
                 int worth = heldWorthAt(door);
                 if (worth > most) {
                     most = worth;
@@ -1468,7 +1476,7 @@ public final class ThoughtTax {
         private int chainOf(int readers) {
             int left = 100;
             for (int skill = 0; skill <= 9; skill++) {
-                for (int reader = 0; book.isReader(reader); reader++) {
+                for (int reader = 0; reader < book.readers && reader < MOST_READERS; reader++) {
                     if ((readers >> reader & 1) == 1 && skills[reader] == skill) {
                         left = left * skill / 10;
                     }
@@ -1479,7 +1487,7 @@ public final class ThoughtTax {
 
         private int countOf(int state) {
             int many = 0;
-            for (int t = 0; book.isThought(t); t++) {
+            for (int t = 0; t < book.thoughts && t < MOST_THOUGHTS; t++) {
                 many += states[t] == state ? 1 : 0;
             }
             return many;
@@ -1487,7 +1495,7 @@ public final class ThoughtTax {
 
         private int sum(int[] row) {
             int sum = 0;
-            for (int man = 0; book.isMan(man) && man < row.length; man++) {
+            for (int man = 0; man < book.people && man < MOST_PEOPLE && man < row.length; man++) {
                 sum += row[man];
             }
             return sum;
@@ -1496,7 +1504,7 @@ public final class ThoughtTax {
         /** Who has the most in a row, the first of several; NONE without PEOPLE. */
         private int greatest(int[] row) {
             int greatest = NONE;
-            for (int man = 0; book.isMan(man) && man < row.length; man++) {
+            for (int man = 0; man < book.people && man < MOST_PEOPLE && man < row.length; man++) {
                 if (greatest == NONE || row[man] > row[greatest]) {
                     greatest = man;
                 }
@@ -1747,7 +1755,7 @@ public final class ThoughtTax {
             trial.copy(now);
             trial.think();
             int tax = 0;
-            for (int door = 0; now.book.isMan(door); door++) {
+            for (int door = 0; door < now.book.people && door < MOST_PEOPLE; door++) {
                 int reader = door < CHOSEN_DOORS ? readerOfMost(door) : now.rounds[door];
                 if (door == what && what < CHOSEN_DOORS) {
                     return reader;
@@ -1760,7 +1768,7 @@ public final class ThoughtTax {
         private int readerOfMost(int door) {
             int chosen = 0;
             int most = NONE;
-            for (int reader = 0; trial.book.isReader(reader); reader++) {
+            for (int reader = 0; reader < trial.book.readers && reader < MOST_READERS; reader++) {
                 int due = trial.dueAt(door, reader, false);
                 if (due > most) {
                     most = due;
@@ -1773,7 +1781,7 @@ public final class ThoughtTax {
         private int holderOfLeast(World now, int thought, int what) {
             int chosen = NONE;
             int least = 0;
-            for (int man = 0; now.book.isMan(man) && now.isHeld(thought); man++) {
+            for (int man = 0; man < now.book.people && man < MOST_PEOPLE && now.isHeld(thought); man++) {
                 trial.copy(now);
                 trial.holders[thought] = man;
                 trial.goWeeks(HIDE_WEEKS, false);
@@ -1792,11 +1800,16 @@ public final class ThoughtTax {
             for (int rate = 0; rate <= 100; rate++) {
                 trial.copy(now);
                 trial.rate = rate;
+                trial.isRated = false;
                 trial.goWeeks(n, false);
                 int paid = trial.sum(trial.paid) - now.sum(now.paid);
                 if (paid > most) {
                     chosen = rate;
                     most = paid;
+                }
+                // Where the rate is never asked for, all others bring the same.
+                if (!trial.isRated) {
+                    break;
                 }
             }
             return what == 0 ? chosen : most;
@@ -1807,7 +1820,7 @@ public final class ThoughtTax {
             trial.goWeeks(WORTHLESS_WEEKS, false);
             noteTaxes();
             int bits = 0;
-            for (int t = 0; now.book.isThought(t); t++) {
+            for (int t = 0; t < now.book.thoughts && t < MOST_THOUGHTS; t++) {
                 int owner = now.book.owners[t];
                 if (now.states[t] == TO_COME && now.book.isMan(owner)) {
                     trial.copy(now);
@@ -1820,7 +1833,7 @@ public final class ThoughtTax {
         }
 
         private void noteTaxes() {
-            for (int man = 0; trial.book.isMan(man); man++) {
+            for (int man = 0; man < trial.book.people && man < MOST_PEOPLE; man++) {
                 taxes[man] = trial.taxOf(man);
             }
         }
@@ -1833,7 +1846,7 @@ public final class ThoughtTax {
             trial.rate = rate;
             trial.goWeeks(n, false);
             int many = 0;
-            for (int man = 0; now.book.isMan(man); man++) {
+            for (int man = 0; man < now.book.people && man < MOST_PEOPLE; man++) {
                 int tax = trial.taxOf(man);
                 many += (what == 0 ? tax < taxes[man] : tax > taxes[man]) ? 1 : 0;
             }
@@ -1919,7 +1932,7 @@ public final class ThoughtTax {
         }
 
         private void thinkNothing(int man) {
-            for (int t = 0; trial.book.isThought(t); t++) {
+            for (int t = 0; t < trial.book.thoughts && t < MOST_THOUGHTS; t++) {
                 if (trial.states[t] == TO_COME && trial.book.owners[t] == man) {
                     trial.states[t] = GONE;
                 }

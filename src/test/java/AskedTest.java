@@ -318,6 +318,9 @@ public final class AskedTest {
         KIT.due("nobody", x.debtor(), -2);
         x.weeks(4);
         KIT.due("the first of several", x.debtor(), 1);
+        ThoughtTax one = Kit.told("man a 99 0;man b 9 0;thought b 50 0 0;reader r 9 15;law read 100;");
+        one.weeks(4);
+        KIT.due("one is owed", one.debtor(), 1);
         KIT.due("no people", new ThoughtTax().debtor(), -2);
     }
 

@@ -1,7 +1,10 @@
 import java.util.NoSuchElementException;
 import java.util.Random;
 
-/** Asks the class and the Model the same things, call by call, on texts and calls drawn from fixed seeds. */
+/**
+ * Asks the class and the Model the same things, call by call, on texts and calls drawn from fixed seeds.
+ * A number as argument makes it so many times as long.
+ */
 public final class ModelTest {
     private static final int RUNS = 1500;
     private static final int TEXTS = 20000;
@@ -15,18 +18,18 @@ public final class ModelTest {
     private int people;
     private int thoughts;
     private int readers;
-    private int knots;
 
     private ModelTest(long seed) {
         random = new Random(seed);
     }
 
     public static void main(String[] args) {
+        int times = args.length > 0 ? Integer.parseInt(args[0]) : 1;
         int wrong = 0;
-        for (int run = 0; run < RUNS && wrong < 10; run++) {
+        for (int run = 0; run < RUNS * times && wrong < 10; run++) {
             wrong += new ModelTest(run).run(run);
         }
-        for (int run = 0; run < TEXTS && wrong < 10; run++) {
+        for (int run = 0; run < TEXTS * times && wrong < 10; run++) {
             wrong += new ModelTest(-1 - run).oneText(run);
         }
         System.out.println(wrong == 0 ? "ModelTest: all answers are as due" : "ModelTest: " + wrong + " runs are wrong");
@@ -127,7 +130,6 @@ public final class ModelTest {
         people = m.count(0);
         thoughts = m.count(1);
         readers = m.count(2);
-        knots += m.count(3);
         return null;
     }
 

@@ -58,6 +58,22 @@ public final class UndoTest {
         }
         KIT.due("the two first ones stay", x.count(5), 32);
         KIT.due("no more", x.undo(), -1);
+        ThoughtTax mixed = Kit.told("man a 999 0;reader r 1 1;reader s 1 1;dull 1;");
+        mixed.round(0, 1);
+        for (int i = 0; i < 5; i++) {
+            mixed.rate(30 + i);
+            mixed.buy(0, 1);
+            mixed.round(0, i % 2);
+            mixed.rate(60 + i);
+        }
+        KIT.due("twenty of unlike kinds", mixed.count(12), 20);
+        for (int i = 0; i < 20; i++) {
+            mixed.undo();
+        }
+        KIT.due("the rate at first", mixed.count(5), 20);
+        KIT.due("the purse at first", mixed.man(0, 0), 999);
+        KIT.due("no dull ones as at first", mixed.man(0, 4), 0);
+        KIT.due("the round behind the first one", mixed.man(0, 5), 1);
     }
 
     private static void images() {

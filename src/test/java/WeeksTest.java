@@ -119,6 +119,9 @@ public final class WeeksTest {
         KIT.due("0 times the most", Kit.worked("0*(1000*1000*1000*1000)"), 0);
         KIT.due("the most times 0", Kit.worked("(1000*1000*1000*1000)*0"), 0);
         KIT.due("an error that would come back", Kit.worked("1000*1000*1000*1000+1-1"), error);
+        KIT.due("as many nots as there can be", Kit.worked("not ".repeat(63) + "9"), 0);
+        KIT.due("one less, in eight '('", Kit.worked("((((((((" + "not ".repeat(62) + "9))))))))"), 1);
+        KIT.due("all ranks waiting", Kit.worked("0 or 1 and not 2<3+4*(5 or 6 and not 7<8+9*1)"), 0);
         KIT.due("worth", Kit.worked("worth"), 50);
         KIT.due("skill", Kit.worked("skill"), 4);
         KIT.due("purse", Kit.worked("purse"), 30);
