@@ -131,6 +131,7 @@ public final class AskedTest {
         KIT.due("in 8: the rate", x.bestRate(8, 0), 84);
         KIT.due("in 8: paid", x.bestRate(8, 1), 100);
         KIT.due("in 3: the first", x.bestRate(3, 0), 0);
+        KIT.due("in 1: paid", x.bestRate(1, 1), 0);
         KIT.due("in 40", x.bestRate(40, 1), 100);
         KIT.due("in 0", x.bestRate(0, 0), -1);
         KIT.due("in 41", x.bestRate(41, 0), -1);
@@ -238,6 +239,9 @@ public final class AskedTest {
         x.undo();
         x.hide(1, 1);
         KIT.due("the first of several", x.first(), 1);
+        ThoughtTax least = Kit.told("man a 1 0;man b 1 0;thought b 1 0 0;");
+        least.weeks(1);
+        KIT.due("the least worth", least.first(), 1);
         KIT.due("no people", Kit.told("reader a 1 1;").first(), -1);
     }
 
@@ -289,6 +293,8 @@ public final class AskedTest {
         KIT.due("one more by 60 alone", x.vote(4, 52, 1), 1);
         KIT.due("as it is", x.vote(4, 50, 1), 0);
         KIT.due("in 3", x.vote(3, 0, 0), 0);
+        KIT.due("in 1", x.vote(1, 0, 0), 0);
+        KIT.due("rate 100", x.vote(4, 100, 1), 2);
         KIT.due("in 40", x.vote(40, 0, 0), 2);
         KIT.due("in 0", x.vote(0, 0, 0), -1);
         KIT.due("in 41", x.vote(41, 0, 0), -1);
@@ -305,6 +311,8 @@ public final class AskedTest {
         KIT.due("two of them", x.whose(60, 1), 3);
         KIT.due("by tongue", x.whose(60, 2), 4);
         KIT.due("by worth", x.whose(61, 1), 0);
+        KIT.due("the least of both", x.whose(1, 0), 0);
+        KIT.due("the most of both", x.whose(99, 3), 0);
         x.hide(0, 2);
         KIT.due("who holds it", x.whose(60, 1), 6);
         KIT.due("worth 0", x.whose(0, 1), -1);
@@ -395,6 +403,7 @@ public final class AskedTest {
         KIT.due("51 at least", x.chance(12345, 4, 51), 0);
         KIT.due("in 3", x.chance(12345, 3, 1), 0);
         KIT.due("the greatest seed", x.chance(MOST, 99, 999), 0);
+        KIT.due("the least seed, in 1", x.chance(0, 1, 0), 10);
         KIT.due("a seed below 0", x.chance(-1, 4, 1), -1);
         KIT.due("0 weeks", x.chance(1, 0, 1), -1);
         KIT.due("100 weeks", x.chance(1, 100, 1), -1);

@@ -147,6 +147,7 @@ public final class WeeksTest {
         KIT.due("read of a hidden one", x.law(0, 1), 70410);
         KIT.due("hide of a hidden one", x.law(2, 1), 830);
         KIT.due("due by another's", x.law(1, 1), 70410);
+        KIT.due("due by what is left", x.law(1, 0), 50413);
         KIT.due("read of no such thought", x.law(0, 3), none);
         KIT.due("read below 0", x.law(0, -1), none);
         KIT.due("due of no such man", x.law(1, 2), none);
