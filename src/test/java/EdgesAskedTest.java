@@ -32,6 +32,8 @@ public final class EdgesAskedTest {
         chanceByNumbers();
         tried();
         triedOtherwise();
+        triedJustSo();
+        asItGoes();
         KIT.end();
     }
 
@@ -352,6 +354,15 @@ public final class EdgesAskedTest {
         KIT.due("one less: kind alone", holding(4, 100).rest(0) * 100 + holding(4, 100).rests(), 1101);
         KIT.due("two more: well alone", holding(7, 100).rest(0) * 100 + holding(7, 100).rests(), 1001);
         KIT.due("a rate of 0", holding(999, 0).rest(0), 11);
+        for (String other : new String[] {"thought a 1 9 0;", "thought a 2 0 0;law hide 2*(worth>8);"}) {
+            for (int worth = 9; worth <= 10; worth++) {
+                ThoughtTax edge = in(2, "man a 1 1;thought a " + worth + " 0 0;rate 100;" + other);
+                KIT.due("what isn't held neither adds nor takes: " + worth + other, edge.rests(), 2);
+                KIT.due("which: " + worth + other, edge.rest(1), 10);
+            }
+        }
+        ThoughtTax five = in(1, "man a 1 1;thought a 5 0 0;thought a 99 50 0;rate 100;");
+        KIT.due("nor of five", five.rests() * 10000 + five.rest(0) * 100 + five.rest(1), 21011);
         KIT.due("a thought to come isn't held", Kit.told("man a 1 1;thought a 99 0 0;rate 100;").rest(0), 11);
         KIT.due("one that is gone isn't", in(30, "man a 1 1;thought a 99 0 0;rate 100;").rest(0), 11);
     }
@@ -673,6 +684,10 @@ public final class EdgesAskedTest {
             }
             KIT.due("nobody, what " + one, new ThoughtTax().tried(one, 0, 9), one == 2 ? -1 : 0);
         }
+        for (int what = 0; what <= 4; what++) {
+            KIT.due("tried(" + what + ", 0, 0)", Kit.busy().tried(what, 0, 0), 0);
+            KIT.due("tried(" + what + ", 0, 99) is taken", Kit.busy().tried(what, 0, 99) >= 0, true);
+        }
         for (int what : new int[] {-1, 5, Kit.LEAST, Kit.MOST}) {
             KIT.stays("tried(" + what + ", 0, 4)", x -> x.tried(what, 0, 4), -1);
         }
@@ -700,5 +715,66 @@ public final class EdgesAskedTest {
         ThoughtTax held = in(1, "man a 999 9;thought a 50 0 0;reader r 9 1;law read 60;law due 1;");
         KIT.due("wiles hide for longer", held.ahead(30, 0), 4);
         KIT.due("nobody has wiles: gone sooner", held.tried(0, 0, 30), 2);
+    }
+
+    /** Read by just what is tried, by nothing beside it. */
+    private static void triedJustSo() {
+        String[] laws = {"wiles=0", "dulled=0", "week>=0", "week>=0", "skill=9"};
+        for (int what = 0; what <= 4; what++) {
+            ThoughtTax x = in(1, "man a 99 5;man b 99 5;thought a 9 0 3;thought b 9 0 0;reader r 5 8;reader s 5 1;dull 1;law due 7;law read 50*(" + laws[what] + ");");
+            x.buy(0, 1);
+            x.buy(1, 1);
+            KIT.due("tried " + what, x.tried(what, 0, 3), 14);
+            KIT.due("as it goes " + what, x.ahead(3, 0), what == 2 || what == 3 ? 14 : 0);
+        }
+        for (int tongue = 0; tongue <= 3; tongue++) {
+            ThoughtTax x = Kit.told("man a 99 5;thought a 9 0 " + tongue + ";reader r 5 0;law due 7;law read 50;");
+            KIT.due("tongue " + tongue + " isn't known", x.ahead(4, 0), 0);
+            KIT.due("all know tongue " + tongue, x.tried(3, 0, 4), 7);
+        }
+        ThoughtTax x = Kit.told("man a 99 5;man b 99 5;thought a 9 3 0;thought b 9 3 0;thought a 9 7 0;reader r 5 1;law due 7;law read 100;law hide 0;");
+        KIT.due("all think", x.ahead(8, 0), 21);
+        KIT.due("a thinks nothing more, the first one neither", x.tried(2, 0, 8), 7);
+        KIT.due("b thinks nothing more", x.tried(2, 1, 8), 14);
+        x.weeks(4);
+        KIT.due("paid more", x.tried(4, 0, 4), 7);
+        KIT.due("a thinks nothing more than now", x.tried(2, 0, 4), 0);
+        KIT.due("what was paid stays", x.count(8), 14);
+    }
+
+    /** By 50 of a hundred all is as by 100, by 49 as by 0, whatever the numbers are. */
+    private static void asItGoes() {
+        String street = "man a 30 0;man b 99 0;man c 25 0;thought a 40 0 0;thought b 60 0 0;thought a 50 3 0;thought b 70 9 0;thought c 20 1 0;thought a 10 5 0;"
+            + "reader r 5 1;reader s 6 1;rate 50;law hide 30;law read ";
+        for (int seed = 0; seed < 30; seed++) {
+            String drawn = ";seed " + seed * 3001 + ";";
+            for (int[] pair : new int[][] {{50, 100}, {49, 0}}) {
+                ThoughtTax x = in(2, street + pair[0] + drawn);
+                ThoughtTax y = in(2, street + pair[1] + drawn);
+                for (int n : new int[] {1, 2, 3, 10, 40}) {
+                    for (int what = 0; what <= 3; what++) {
+                        KIT.due(pair[0] + ": ahead(" + n + ", " + what + ")", x.ahead(n, what), y.ahead(n, what));
+                    }
+                    for (int what = 0; what <= 1; what++) {
+                        KIT.due(pair[0] + ": bestRate(" + n + ", " + what + ")", x.bestRate(n, what), y.bestRate(n, what));
+                        KIT.due(pair[0] + ": vote(" + n + ", 40, " + what + ")", x.vote(n, 40, what), y.vote(n, 40, what));
+                        KIT.due(pair[0] + ": vote(" + n + ", 60, " + what + ")", x.vote(n, 60, what), y.vote(n, 60, what));
+                    }
+                    KIT.due(pair[0] + ": richest(" + n + ")", x.richest(n), y.richest(n));
+                    KIT.due(pair[0] + ": tried(0, 0, " + n + ")", x.tried(0, 0, n), y.tried(0, 0, n));
+                }
+                for (int what = 0; what <= 4; what++) {
+                    KIT.due(pair[0] + ": bestRound(" + what + ")", x.bestRound(what), y.bestRound(what));
+                }
+                KIT.due(pair[0] + ": hideIn(0, 0)", x.hideIn(0, 0), y.hideIn(0, 0));
+                KIT.due(pair[0] + ": hideIn(0, 1)", x.hideIn(0, 1), y.hideIn(0, 1));
+                KIT.due(pair[0] + ": worthless", x.worthless(), y.worthless());
+                KIT.due(pair[0] + ": nextRead(3)", x.nextRead(3), y.nextRead(3));
+                KIT.due(pair[0] + ": enough(0)", x.enough(0), y.enough(0));
+                x.find(4, 0, true);
+                y.find(4, 0, true);
+                KIT.due(pair[0] + ": skills(0)", x.skills(0), y.skills(0));
+            }
+        }
     }
 }

@@ -26,6 +26,7 @@ public final class EdgesTextTest {
         numbers();
         numbersThatWrap();
         withoutALine();
+        withoutALineBehindOthers();
         howMany();
         open();
         knots();
@@ -52,7 +53,7 @@ public final class EdgesTextTest {
         changes("text", x -> x.text(20));
         changes("a text with a fault", x -> x.text(3));
         changes("hide", x -> x.hide(1, 1) ? 1 : 0);
-        changes("buy", x -> x.buy(1, 1));
+        changes("buy", x -> x.buy(2, 1));
         changes("round", x -> x.round(0, 1) ? 1 : 0);
         changes("rate", x -> x.rate(62) ? 1 : 0);
         changes("weeks", x -> x.weeks(1));
@@ -166,8 +167,14 @@ public final class EdgesTextTest {
         KIT.due("a text of no bytes", Kit.all(y), Kit.all(new ThoughtTax()));
         KIT.due("no image", y.back(), -1);
         ThoughtTax z = Kit.busy();
+        z.known(0);
         z.text(8);
         KIT.due("all known, those to come, too", z.known(1), false);
+        Kit.tell(z, Kit.STREET);
+        z.find(4, 0, true);
+        KIT.due("what is found then is known", z.count(11), 1);
+        KIT.due("and counts", z.skills(0), 0b1111100000);
+        z.text(0);
         KIT.due("nobody is left", z.count(0) + z.count(1) + z.count(2) + z.count(3), 0);
         KIT.due("how many lines", Kit.told(MEN + READERS).count(0), 6);
         KIT.fine(MEN + READERS, 10);
@@ -356,6 +363,25 @@ public final class EdgesTextTest {
         }
     }
 
+    /** Two texts ahead, as two may be kept inside; one of them with a fault. */
+    private static void withoutALineBehindOthers() {
+        String all = "man q 9 9;thought q 9 9 3;reader q 9 9;rate 9;dull 9;seed 9;law read 9;law due 9;law hide 9;";
+        String[] texts = {"man a 45 0;", "man a 999 0;thought a 9 0 0;thought a 8 0 0;reader r 5 1;", "man a 99 0;thought a 9 0 0;reader r 9 1;rate 50;"};
+        for (String text : texts) {
+            ThoughtTax x = Kit.told(all);
+            Kit.tell(x, all);
+            Kit.tell(x, all + "law");
+            Kit.tell(x, text);
+            KIT.due("a purse of 45 buys nine by 5", x.buy(0, 9), 9);
+            ThoughtTax y = Kit.told(text);
+            y.buy(0, 9);
+            x.weeks(1);
+            y.weeks(1);
+            KIT.due("laws, too", x.law(0, 0) == Long.MIN_VALUE && x.law(1, 0) == Long.MIN_VALUE && x.law(2, 0) == Long.MIN_VALUE, true);
+            KIT.due("as if nothing had been told ahead of " + text, Kit.all(x), Kit.all(y));
+        }
+    }
+
     private static void howMany() {
         KIT.fine(MEN, 6);
         KIT.faulty(MEN + "man g 1 1;", 2, 60);
@@ -385,6 +411,13 @@ public final class EdgesTextTest {
         KIT.due("a comparison in each, the other way", Kit.worked("((((((((3<4)<4)<4)<4)<4)<4)<4)<4)<4"), 1);
         KIT.faulty("law read (1))", 1, 12);
         KIT.faulty("law read ((1);", 1, 13);
+        ThoughtTax x = new ThoughtTax();
+        for (String broken : new String[] {"law read ((((((((", "law read ((((((((1<", "law read 1<1 1", "law read 1<", "law read 1+not"}) {
+            KIT.due("a fault of " + broken, Kit.tell(x, broken), -1);
+            KIT.due("none is open behind " + broken, Kit.tell(x, "law read ((((((((1))))))))<1;"), 1);
+            KIT.due("the ninth behind " + broken, Kit.tell(x, "law read (((((((((1"), -1);
+            KIT.due("at its place", x.fault(1), 17);
+        }
     }
 
     /** So many knots and nothing behind them: "law read 1+1+1 .." with an operand last if they are odd. */
@@ -540,6 +573,7 @@ public final class EdgesTextTest {
         KIT.fine("law read 1 and not 1 or not 1;", 1);
         KIT.fine("law read (not 1)+1<(1<1);", 1);
         KIT.fine("law read 1<1 and 1<1 or 1<1 and not 1<1;", 1);
+        KIT.fine("law read 1<1;law due 1=1;law hide 1>1;", 3);
         KIT.faulty("law read 1<1<1;", 1, 12);
         KIT.faulty("law read 1<1+1*1<1;", 1, 16);
         KIT.faulty("law read not 1<1=1;", 1, 16);

@@ -28,6 +28,7 @@ public final class EdgesWeeksTest {
         goneByNumbers();
         names();
         values();
+        whatBindsMore();
         errors();
         asItGoes();
         thought();
@@ -383,6 +384,58 @@ public final class EdgesWeeksTest {
         for (int[] one : cut) {
             String text = "(0+" + text(one[0]) + ")/" + text(one[1]);
             KIT.due(text, Kit.worked(text), one[2]);
+        }
+    }
+
+    private static final String[] SIGNS = {"or", "and", "<", "<=", "=", "<>", ">=", ">", "+", "-", "*", "/"};
+    private static final int[] BINDS = {1, 2, 3, 3, 3, 3, 3, 3, 4, 4, 5, 5};
+
+    private static long joined(int sign, long left, long right) {
+        switch (sign) {
+            case 0: return left != 0 || right != 0 ? 1 : 0;
+            case 1: return left != 0 && right != 0 ? 1 : 0;
+            case 2: return left < right ? 1 : 0;
+            case 3: return left <= right ? 1 : 0;
+            case 4: return left == right ? 1 : 0;
+            case 5: return left != right ? 1 : 0;
+            case 6: return left >= right ? 1 : 0;
+            case 7: return left > right ? 1 : 0;
+            case 8: return left + right;
+            case 9: return left - right;
+            case 10: return left * right;
+            default: return right == 0 || left == NO_LAW || right == NO_LAW ? NO_LAW : left / right;
+        }
+    }
+
+    /** Each two signs one behind another, and each behind not, in '(' and without. */
+    private static void whatBindsMore() {
+        int[][] rows = {{7, 2, 3}, {0, 2, 5}, {1, 0, 7}, {3, 3, 1}, {9, 4, 2}, {0, 0, 1}, {1, 1, 0}};
+        for (int one = 0; one < SIGNS.length; one++) {
+            for (int other = 0; other < SIGNS.length; other++) {
+                for (int[] row : rows) {
+                    boolean first = BINDS[one] >= BINDS[other];
+                    long inner = first ? joined(one, row[0], row[1]) : joined(other, row[1], row[2]);
+                    long want = inner == NO_LAW ? NO_LAW : first ? joined(other, inner, row[2]) : joined(one, row[0], inner);
+                    String text = row[0] + " " + SIGNS[one] + " " + row[1] + " " + SIGNS[other] + " " + row[2];
+                    boolean isTwice = BINDS[one] == 3 && BINDS[other] == 3;
+                    if (!isTwice) {
+                        KIT.due(text, Kit.worked(text), want);
+                        KIT.due("5+(" + text + ")*2", Kit.worked("5+(" + text + ")*2"), want == NO_LAW ? NO_LAW : 5 + want * 2);
+                    }
+                    String left = "(" + row[0] + " " + SIGNS[one] + " " + row[1] + ") " + SIGNS[other] + " " + row[2];
+                    long within = joined(one, row[0], row[1]);
+                    KIT.due(left, Kit.worked(left), within == NO_LAW ? NO_LAW : joined(other, within, row[2]));
+                    String right = row[0] + " " + SIGNS[one] + " (" + row[1] + " " + SIGNS[other] + " " + row[2] + ")";
+                    long behind = joined(other, row[1], row[2]);
+                    KIT.due(right, Kit.worked(right), behind == NO_LAW ? NO_LAW : joined(one, row[0], behind));
+                }
+            }
+            for (int[] row : rows) {
+                String text = "not " + row[0] + " " + SIGNS[one] + " " + row[1];
+                long all = joined(one, row[0], row[1]);
+                long want = BINDS[one] > 2 ? all == NO_LAW ? NO_LAW : all == 0 ? 1 : 0 : joined(one, row[0] == 0 ? 1 : 0, row[1]);
+                KIT.due(text, Kit.worked(text), want);
+            }
         }
     }
 

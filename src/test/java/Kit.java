@@ -48,9 +48,9 @@ final class Kit {
         return x.law(0, 0);
     }
 
-    /** Something of all that can stay: a tape, a fault, weeks, an image, what was found, struck, known and done. */
+    /** Something of all that can stay: a tape, a fault, weeks, what is owed, an image, what was found, known and done. */
     static ThoughtTax busy() {
-        ThoughtTax x = told(STREET + "law hide 11;");
+        ThoughtTax x = told(STREET + "law hide 11;law due worth*2;");
         tell(x, "rate 101;");
         x.weeks(5);
         x.keep();
@@ -61,7 +61,7 @@ final class Kit {
         x.strike(1);
         x.known(2);
         x.hide(0, 1);
-        x.buy(0, 2);
+        x.buy(2, 2);
         x.round(2, 1);
         x.rate(61);
         x.feed(0x72617465, 0x2037373b, 0x20202020, 0x20202020, 0x20202020);
