@@ -443,6 +443,10 @@ public final class AskedTest {
             ask(x);
             x.weeks(1);
             y.weeks(1);
+            // What an object answers behind its 512th call is free, so not each week is looked at.
+            if (week % 4 != 3) {
+                continue;
+            }
             for (int man = 0; man < 3; man++) {
                 for (int what = 0; what < 6; what++) {
                     KIT.due("week " + week + ", man(" + man + ", " + what + ")", x.man(man, what), y.man(man, what));
